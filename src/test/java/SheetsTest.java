@@ -152,6 +152,8 @@ public final class SheetsTest {
 
     private static void read() {
         FrameWalks x = laid(1, 5, 6, 7, 8);
+        checks.due("read of cell 0", x.read(0, 1, 0, 1, 0), 1);
+        checks.due("cell 0", x.poke(0, 0), 5);
         checks.due("read", x.read(0, 1, 1, 3, 45), 3);
         checks.due("torn", x.torn(), 0);
         checks.due("word 44", x.peek(44), 0);

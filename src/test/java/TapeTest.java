@@ -17,6 +17,8 @@ public final class TapeTest {
         faultsOfShared();
         firstFaultMet();
         whatStays();
+        tapeToItsLastByte();
+        bytesCutOff();
         checks.close("TapeTest");
     }
 
@@ -144,6 +146,9 @@ public final class TapeTest {
         checks.dueFault("foo 1 2;", 2, 0);
         checks.dueFault("fu 1 2;", 2, 0);
         checks.dueFault("funn 1 2;", 2, 0);
+        checks.dueFault("gun 1 2;", 2, 0);
+        checks.dueFault("fuz 1 2;", 2, 0);
+        checks.dueFault("z", 2, 0);
         checks.dueFault(" 12", 2, 1);
         checks.dueFault(";", 2, 0);
         checks.dueFault("fun 1 2;;", 2, 8);
@@ -251,5 +256,32 @@ public final class TapeTest {
         checks.due("images stay", x.count(0), 1);
         checks.due("a text that is taken", x.text(), 0);
         checks.due("no fault", x.fault(), 0);
+    }
+
+    private static void tapeToItsLastByte() {
+        String ahead = "fun 1 2;";
+        checks.due("blanks to the last byte", Checks.tell(new FrameWalks(), ahead + Checks.times(" ", 312)), 1);
+        checks.due("a line to the last byte", Checks.tell(new FrameWalks(), ahead + Checks.times(" ", 307) + "mark;"), 2);
+        checks.dueFault(ahead + Checks.times("x", 312), 2, 8);
+        checks.dueFault("fun " + Checks.times("1", 316), 1, 4);
+        checks.dueFault(Checks.times(" ", 313) + "fun 1 2", 2, 320);
+    }
+
+    /** What end() cut off is no more there, though bytes of it stood behind. */
+    private static void bytesCutOff() {
+        String[] cut = {"fun 1 2|345;", "fun 1 2|;", "mar|k;", "fun 1 2| ;"};
+        int[] faults = {2, 2, 2, 2};
+        int[] places = {7, 7, 0, 7};
+        for (int j = 0; j < cut.length; j++) {
+            FrameWalks x = new FrameWalks();
+            Checks.feed(x, cut[j].replace("|", ""));
+            x.end(cut[j].indexOf('|'));
+            checks.due("text of " + cut[j], x.text(), -10 - places[j]);
+            checks.due("fault of " + cut[j], x.fault(), faults[j]);
+        }
+        FrameWalks blanks = new FrameWalks();
+        Checks.feed(blanks, "fun 1 2    ");
+        blanks.end(9);
+        checks.due("the length, not what was cut off", blanks.text(), -19);
     }
 }
