@@ -15,6 +15,7 @@ public final class RandomTest {
     private final StringBuilder log = new StringBuilder();
     private int calls = 0;
     private int wrong = 0;
+    private boolean clean = true;
 
     private RandomTest(int seed) {
         random = new Random(seed);
@@ -64,8 +65,7 @@ public final class RandomTest {
     }
 
     private int address() {
-        int[] near = {0, 1, 9, 10, 11, 19, 20, 21, 22, 29, 30, 31};
-        return random.nextInt(3) > 0 ? near[random.nextInt(near.length)] : upTo(40);
+        return random.nextInt(5) > 0 ? random.nextInt(31) : upTo(40);
     }
 
     private int number() {
@@ -83,12 +83,20 @@ public final class RandomTest {
     }
 
     private String n(int most) {
-        return Integer.toString(random.nextInt(30) == 0 ? random.nextInt(1200) : random.nextInt(most + 1));
+        return Integer.toString(!clean && random.nextInt(20) == 0 ? random.nextInt(1200) : random.nextInt(most + 1));
     }
 
     private String r(String letters) {
-        String from = random.nextInt(60) == 0 ? "abcdspqz" : letters;
+        String from = !clean && random.nextInt(20) == 0 ? "abcdspqz" : letters;
         return Character.toString(from.charAt(random.nextInt(from.length())));
+    }
+
+    private String kindOfLanding() {
+        return switch (random.nextInt(8)) {
+            case 0, 1, 2 -> "0";
+            case 3 -> "10";
+            default -> n(4);
+        };
     }
 
     private String line(int which) {
@@ -100,8 +108,8 @@ public final class RandomTest {
             case 4 -> " " + r("abcdp");
             case 5 -> " " + r("abcdp") + " " + r("abcdsp");
             case 6, 7 -> "";
-            case 10 -> " " + n(20) + " " + (10 + random.nextInt(25)) + " " + n(random.nextInt(3) == 0 ? 0 : 10) + " " + n(9);
-            case 11 -> " " + n(40) + " " + n(40);
+            case 10 -> " " + n(9) + " " + (9 + random.nextInt(25)) + " " + kindOfLanding() + " " + n(9);
+            case 11 -> " " + n(30) + " " + n(30);
             default -> " " + n(40) + " " + n(60);
         };
         return NAMES[which] + operands + ";";
@@ -110,28 +118,28 @@ public final class RandomTest {
     private String linesOf(int many) {
         StringBuilder lines = new StringBuilder();
         for (int j = 0; j < many; j++) {
-            int which = random.nextInt(11);
-            lines.append(line(which < 8 ? which : which == 8 ? 11 : 10));
+            int which = random.nextInt(14);
+            lines.append(line(which < 8 ? which : which < 11 ? 11 : 10));
         }
         return lines.toString();
     }
 
     private void tell() {
         StringBuilder text = new StringBuilder();
+        clean = random.nextInt(3) > 0;
         int routines = 1 + random.nextInt(3);
         for (int j = 0; j < routines; j++) {
             text.append(random.nextInt(3) == 0 ? "sig " : "fun ").append(j * 10 + random.nextInt(3)).append(' ');
             text.append(j * 10 + 6 + random.nextInt(random.nextInt(12) == 0 ? 6 : 4)).append(';');
             text.append(linesOf(random.nextInt(7)));
         }
-        if (random.nextInt(6) == 0) {
+        if (!clean && random.nextInt(3) == 0) {
             text.append(line(random.nextInt(12)));
         }
-        if (random.nextInt(5) == 0) {
-            text.setCharAt(random.nextInt(text.length()), " ;019aspz~{"
-                .charAt(random.nextInt(11)));
+        if (!clean && random.nextInt(3) == 0) {
+            text.setCharAt(random.nextInt(text.length()), " ;019aspz~{".charAt(random.nextInt(11)));
         }
-        if (random.nextInt(8) == 0) {
+        if (!clean && random.nextInt(5) == 0) {
             text.setLength(random.nextInt(text.length()));
         }
         feedAll(text.toString());
@@ -163,9 +171,14 @@ public final class RandomTest {
         for (int what = 4; what < 7; what++) {
             due("rule " + what, x.rule(what), model.rule(what));
         }
-        for (int j = 0; j < 6; j++) {
+        for (int j = 0; j < 4; j++) {
             frameOrCame(random.nextInt(6));
         }
+        int kind = 1 + random.nextInt(4);
+        due("caught " + kind + " 0", x.caught(kind, 0), model.caught(kind, 0));
+        due("caught " + kind + " 1", x.caught(kind, 1), model.caught(kind, 1));
+        due("cleaned " + kind + " 0", x.cleaned(kind, 0), model.cleaned(kind, 0));
+        due("cleaned " + kind + " 1", x.cleaned(kind, 1), model.cleaned(kind, 1));
     }
 
     private void frameOrCame(int most) {
@@ -219,8 +232,10 @@ public final class RandomTest {
             case 22, 23 -> {
                 int s = upTo(47);
                 int r = random.nextInt(3) == 0 ? -4 : a;
-                due("guess " + s + " " + r + " " + b + " 0", x.guess(s, r, b, 0), model.guess(s, r, b, 0));
-                due("guess " + s + " " + r + " " + b + " 1", x.guess(s, r, b, 1), model.guess(s, r, b, 1));
+                for (int i = 0; i < 3; i++) {
+                    due("guess " + s + " " + r + " " + i + " 0", x.guess(s, r, i, 0), model.guess(s, r, i, 0));
+                    due("guess " + s + " " + r + " " + i + " 1", x.guess(s, r, i, 1), model.guess(s, r, i, 1));
+                }
                 due("guess what", x.guess(s, r, b, a), model.guess(s, r, b, a));
             }
             case 24, 25 -> due("caught " + d + " " + a, x.caught(d, a), model.caught(d, a));
@@ -242,8 +257,9 @@ public final class RandomTest {
             }
             case 36, 37, 38 -> {
                 int i = upTo(48);
-                due("read " + a + " " + b % 4 + " " + d + " " + c % 9 + " " + i, x.read(a, b % 4, d, c % 9, i),
-                    model.read(a, b % 4, d, c % 9, i));
+                int f = upTo(3);
+                due("read " + a + " " + b % 4 + " " + f + " " + c % 9 + " " + i, x.read(a, b % 4, f, c % 9, i),
+                    model.read(a, b % 4, f, c % 9, i));
                 due("torn", x.torn(), model.torn());
             }
             default -> due("count " + b, x.count(b), model.count(b));
