@@ -42,7 +42,8 @@ public final class RandomTest {
     private void due(String call, int got, int want) {
         calls++;
         log.append(call).append(" = ").append(got).append('\n');
-        if (got != want) {
+        // What an object answers behind its 512th call is free.
+        if (got != want && calls <= CALLS) {
             wrong++;
             log.append("  due is ").append(want).append('\n');
         }
