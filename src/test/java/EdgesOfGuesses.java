@@ -153,6 +153,10 @@ final class EdgesOfGuesses {
         for (int v = 0; v < 6; v++) {
             e.is(due[v], x.frame(1, v));
         }
+        int[] ahead = {9999, 1, 2, 3, 40, 9999};
+        for (int v = 0; v < 6; v++) {
+            e.is(ahead[v], x.frame(0, v));
+        }
         e.is(1, x.came(1, 0));
         e.is(999, x.came(1, 1));
         x.put(S, 0);

@@ -216,7 +216,7 @@ final class EdgesOfTables {
 
     private static void whoseNone(Edges e) {
         e.promise(11, "NONE: none has.");
-        for (int address : new int[] {9, 20, 29, 39, -1, 1000, Edges.LEAST, Edges.GREATEST}) {
+        for (int address : new int[] {9, 20, 29, 39, -1, NONE, -5, 1000, Edges.LEAST, Edges.GREATEST}) {
             e.refused(NONE, x -> x.whose(address));
         }
         FrameWalks whole = Checks.telling("fun 0 999;");
@@ -374,7 +374,7 @@ final class EdgesOfTables {
             e.refused(BAD, x -> x.row(10, wrong));
             e.refused(BAD, x -> x.row(9, wrong));
         }
-        for (int address : new int[] {9, 20, 29, 39, -1, 1000, Edges.LEAST, Edges.GREATEST}) {
+        for (int address : new int[] {9, 20, 29, 39, -1, NONE, -5, 1000, Edges.LEAST, Edges.GREATEST}) {
             for (int what = 0; what < 3; what++) {
                 int asked = what;
                 e.refused(NONE, x -> x.row(address, asked));
@@ -410,7 +410,7 @@ final class EdgesOfTables {
             e.refused(BAD, x -> x.ruleOf(10, 0, wrong));
             e.refused(BAD, x -> x.ruleOf(9, 0, wrong));
         }
-        for (int address : new int[] {9, 20, 29, 39, -1, 1000, Edges.LEAST, Edges.GREATEST}) {
+        for (int address : new int[] {9, 20, 29, 39, -1, NONE, -5, 1000, Edges.LEAST, Edges.GREATEST}) {
             e.refused(NONE, x -> x.ruleOf(address, P, 0));
             e.refused(NONE, x -> x.ruleOf(address, P, 1));
         }
